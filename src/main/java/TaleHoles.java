@@ -474,7 +474,7 @@ public final class TaleHoles {
         private final int[] stemLetters = new int[MOST_WORDS * MOST_STEM];
         private final int[] endings = new int[KINDS * FORMS];
 
-        private void copyFrom(Words other) {
+        private void copyWordsFrom(Words other) {
             known = other.known;
             copyRow(other.kinds, kinds);
             copyRow(other.genders, genders);
@@ -484,7 +484,7 @@ public final class TaleHoles {
         }
 
         private boolean knows(int word) {
-            return isBelow(word, known) && word < MOST_WORDS;
+            return word >= 0 && word < known && word < MOST_WORDS;
         }
 
         private void learn(int kind, int gender, Text text) {
@@ -575,7 +575,7 @@ public final class TaleHoles {
         /** The word that is in a hole, or ABSENT. */
         private final int[] holeWord = new int[MOST_ITEMS];
 
-        private void copyFrom(Tale other) {
+        private void copyTaleFrom(Tale other) {
             items = other.items;
             holes = other.holes;
             copyRow(other.itemHole, itemHole);
@@ -622,11 +622,11 @@ public final class TaleHoles {
         }
 
         private boolean hasItem(int item) {
-            return isBelow(item, items) && item < MOST_ITEMS;
+            return item >= 0 && item < items && item < MOST_ITEMS;
         }
 
         private boolean hasHole(int hole) {
-            return isBelow(hole, holes) && hole < MOST_ITEMS;
+            return hole >= 0 && hole < holes && hole < MOST_ITEMS;
         }
 
         private int kindOfHole(int hole) {
@@ -703,10 +703,10 @@ public final class TaleHoles {
 
         /** A noun in the holes of a tie, one of them left aside, or ABSENT: all have the same gender. */
         private int nounIn(int tie, int asideHole) {
-            for (int hole = 0; hole < holes; hole++) {
-                boolean counts = tieOf(hole) == tie && kindOfHole(hole) == NOUN && hole != asideHole;
-                if (counts && !isEmptyHole(hole)) {
-                    return wordIn(hole);
+            for (int hole = 0; hole < holes && hole < MOST_ITEMS; hole++) {
+                boolean counts = holeTie[hole] == tie && holeKind[hole] == NOUN && hole != asideHole;
+                if (counts && holeWord[hole] != ABSENT) {
+                    return holeWord[hole];
                 }
             }
             return ABSENT;
@@ -723,8 +723,8 @@ public final class TaleHoles {
         private int fillings = 0;
 
         private void copyFrom(State other) {
-            words.copyFrom(other.words);
-            tale.copyFrom(other.tale);
+            words.copyWordsFrom(other.words);
+            tale.copyTaleFrom(other.tale);
             copyRow(other.numbers, numbers);
             copyRow(other.tenses, tenses);
             once = other.once;
@@ -836,7 +836,7 @@ public final class TaleHoles {
             if (hole == ABSENT) {
                 return tale.plainLengthOf(item);
             }
-            return tale.isEmptyHole(hole) ? 1 : lettersIn(hole);
+            return tale.isEmptyHole(hole) ? 1 : words.lengthOf(tale.wordIn(hole), formIn(hole));
         }
 
         private int lengthTold() {

@@ -8,6 +8,8 @@ public final class HistoryTest {
         promise14Keep();
         promise15Restore();
         promise15WholeState();
+        promise15OtherWords();
+        promise15OtherTale();
         Check.end();
     }
 
@@ -162,5 +164,55 @@ public final class HistoryTest {
         Check.due("15: undone", x.undo(), 3);
         Check.due("15: told before", Check.told(x), "end cat cat cat cat");
         Check.due("15: fillings before", x.count(8), 7);
+    }
+
+    private static void promise15OtherWords() {
+        TaleHoles x = new TaleHoles();
+        Check.word(x, "cat", 0, 2);
+        Check.word(x, "go", 1, 0);
+        x.keep();
+        x.undo();
+        x.undo();
+        Check.word(x, "big", 2, 0);
+        Check.word(x, "mouse", 0, 1);
+        Check.due("15: other words", Check.spelt(x, 0, 0) + Check.spelt(x, 1, 0), "bigmouse");
+        x.restore();
+        int[][] due = {{0, 2, 3, 0}, {1, 0, 2, 0}};
+        for (int word = 0; word < 2; word++) {
+            for (int what = 0; what < 4; what++) {
+                Check.due("15: word(" + word + ", " + what + ")", x.word(word, what), due[word][what]);
+            }
+        }
+        Check.due("15: stems", Check.spelt(x, 0, 0) + Check.spelt(x, 1, 0), "catgo");
+        x.undo();
+        Check.due("13: stems", Check.spelt(x, 0, 0) + Check.spelt(x, 1, 0), "bigmouse");
+        Check.due("13: kinds", x.word(0, 0) * 10 + x.word(1, 0), 20);
+        Check.due("13: gender", x.word(1, 1), 1);
+    }
+
+    private static void promise15OtherTale() {
+        TaleHoles x = new TaleHoles();
+        Check.word(x, "cat", 0, 2);
+        Check.tale(x, "#n1 the #v2 then");
+        x.fill(0, 0);
+        x.keep();
+        Check.tale(x, "so #a5 #n4 we #n3");
+        x.fill(2, 0);
+        x.restore();
+        Check.due("15: the tale", Check.told(x), "cat the _ then");
+        int[][] kept = {{0, 1, 0, 0, 3, 0}, {1, 2, -5, 0, 0, 2}};
+        for (int hole = 0; hole < 2; hole++) {
+            for (int what = 0; what < 6; what++) {
+                Check.due("15: hole(" + hole + ", " + what + ")", x.hole(hole, what), kept[hole][what]);
+            }
+        }
+        x.undo();
+        Check.due("13: the tale", Check.told(x), "so _ _ we cat");
+        int[][] undone = {{2, 5, -5, 0, 0, 1}, {0, 4, -5, 0, 0, 2}, {0, 3, 0, 0, 3, 4}};
+        for (int hole = 0; hole < 3; hole++) {
+            for (int what = 0; what < 6; what++) {
+                Check.due("13: hole(" + hole + ", " + what + ")", x.hole(hole, what), undone[hole][what]);
+            }
+        }
     }
 }

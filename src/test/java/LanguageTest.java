@@ -7,7 +7,9 @@ import java.nio.file.Files;
 import java.nio.file.Path;
 import java.util.ArrayList;
 import java.util.List;
+import java.util.Map;
 import java.util.Set;
+import java.util.TreeMap;
 import java.util.TreeSet;
 import java.util.regex.Matcher;
 import java.util.regex.Pattern;
@@ -41,7 +43,7 @@ public final class LanguageTest {
         String bare = bare(source);
         rule4Library(bare);
         rule6Words(bare);
-        rule11Lengths(bare);
+        rule11Methods(bare);
         Check.end();
     }
 
@@ -151,14 +153,34 @@ public final class LanguageTest {
     }
 
     /** A method begins with a line that is indented by 4 or 8 and ends with the brace below its begin. */
-    private static void rule11Lengths(String bare) {
-        int methods = 0;
-        Matcher method = Pattern.compile("(?ms)^( {4}| {8})(public|private)[^=;{]*\\([^;{]*\\) \\{$.*?^\\1\\}$").matcher(bare);
+    private static void rule11Methods(String bare) {
+        Map<String, String> bodies = new TreeMap<>();
+        Matcher method = Pattern.compile("(?ms)^( {4}| {8})(?:private|public) (?:static )?[\\w\\[\\]]+ (\\w+)\\([^;{]*\\) \\{$.*?^\\1\\}$").matcher(bare);
         while (method.find()) {
             int lines = method.group().split("\n").length;
-            Check.due("rule 11: lines of" + method.group().split("\n")[0], lines <= 60 ? 1 : 0, 1);
-            methods++;
+            Check.due("rule 11: lines of " + method.group(2), lines <= 60 ? 1 : 0, 1);
+            String body = method.group().substring(method.group().indexOf('{'));
+            Check.due("rule 11: methods named " + method.group(2), bodies.put(method.group(2), body) == null ? 1 : 2, 1);
         }
-        Check.due("rule 11: methods are found", methods > 60 ? 1 : 0, 1);
+        int methods = 0;
+        for (Class<?> owner : classes()) {
+            methods += owner.getDeclaredMethods().length;
+        }
+        Check.due("rule 11: methods that are found", bodies.size(), methods);
+        for (String name : bodies.keySet()) {
+            Check.due("rule 11: calls below " + name, depth(name, bodies, 0) <= 8 ? 1 : 0, 1);
+        }
+    }
+
+    /** How deep calls go from a method, itself counted; names are not shared, so a name tells the method. */
+    private static int depth(String name, Map<String, String> bodies, int above) {
+        int below = 0;
+        Matcher call = Pattern.compile("\\b([a-z]\\w*)\\(").matcher(bodies.get(name));
+        while (call.find() && above < 9) {
+            if (bodies.containsKey(call.group(1))) {
+                below = Math.max(below, depth(call.group(1), bodies, above + 1));
+            }
+        }
+        return 1 + below;
     }
 }

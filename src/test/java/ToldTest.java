@@ -11,6 +11,7 @@ public final class ToldTest {
         promise22AllWords();
         promise23TieCould();
         promise23GenderOfTheLongest();
+        promise23WithoutNouns();
         promise23None();
         promise24Count();
         Check.end();
@@ -244,6 +245,22 @@ public final class ToldTest {
         Check.due("23: it is not shortest", x.tieCould(1, false), 3 + 3 + 3);
     }
 
+    private static void promise23WithoutNouns() {
+        TaleHoles x = withTale("#a3 #n1 #a0");
+        x.setEnding(2, 1, 1, 1);
+        Check.due("23: the gender is 0, not the longest", x.tieCould(3, true), 3);
+        x.setEnding(2, 1, 0, 0);
+        x.setEnding(2, 0, 1, 0);
+        Check.due("23: the gender is 0, not the shortest", x.tieCould(3, false), 4);
+        Check.due("23: so it is for the tie 0", x.tieCould(0, false), 4);
+        TaleHoles y = new TaleHoles();
+        Check.word(y, "ab", 0, 0);
+        Check.word(y, "abc", 0, 0);
+        Check.tale(y, "#n0");
+        Check.due("23: nouns of the gender 0 alone", y.tieCould(0, true), 3);
+        Check.due("23: shortest", y.tieCould(0, false), 2);
+    }
+
     private static void promise23None() {
         TaleHoles x = new TaleHoles();
         Check.tale(x, "#n1 #v1 #a2 #n3");
@@ -280,6 +297,8 @@ public final class ToldTest {
         Check.due("24: 11", x.count(11), -2);
         Check.due("24: -1", x.count(-1), -2);
         Check.due("24: greatest", x.count(Integer.MAX_VALUE), -2);
+        Check.tale(x, "#n0 #v9 #n0");
+        Check.due("24: the first and the last tie", x.count(6), 2);
         Check.tale(x, "so");
         Check.due("24: ties without holes", x.count(6), 0);
         Check.due("24: letters in no holes", x.count(5), 0);
