@@ -2,15 +2,27 @@
 final class Check {
     private static int wrong = 0;
     private static int checked = 0;
+    /** The sentence that is tested; it stands before each answer that is not as due. */
+    private static String sentence = "";
 
     private Check() {
+    }
+
+    /** Names the sentence of the document that the calls test which follow. */
+    static void sentence(String section, String words) {
+        Document.quote(section, words);
+        sentence = section + ", \"" + words + "\": ";
+    }
+
+    static void noSentence() {
+        sentence = "";
     }
 
     static void due(String call, long got, long want) {
         checked++;
         if (got != want) {
             wrong++;
-            System.out.println(call + " answered " + got + ", due is " + want);
+            System.out.println(sentence + call + " answered " + got + ", due is " + want);
         }
     }
 
@@ -18,8 +30,15 @@ final class Check {
         checked++;
         if (!got.equals(want)) {
             wrong++;
-            System.out.println(call + " answered \"" + got + "\", due is \"" + want + "\"");
+            System.out.println(sentence + call + " answered \"" + got + "\", due is \"" + want + "\"");
         }
+    }
+
+    /** Numbers that are not from 0 to the most: just outside, far off, and such as wrap around in products and masks. */
+    static int[] outside(int most) {
+        return new int[] {-1, most + 1, most + 2, -2, -most - 1, 128, 256, -256, 1 << 16, -(1 << 16), 1 << 24, 1 << 29,
+            (1 << 29) + 1, 1 << 30, 715827883, 1431655766, Integer.MAX_VALUE - 1, Integer.MAX_VALUE,
+            Integer.MIN_VALUE, Integer.MIN_VALUE + 1};
     }
 
     /** Puts a text in place of the one that was. */

@@ -38,9 +38,12 @@ public final class ModelTest {
         }
     }
 
+    /** What is answered behind the last call is free. */
     private void same(String call, int got, int want) {
         calls++;
-        Check.due("run " + run + ", call " + calls + ": " + call, got, want);
+        if (calls <= CALLS) {
+            Check.due("run " + run + ", call " + calls + ": " + call, got, want);
+        }
     }
 
     /** A number that is mostly within the bounds, or just outside of them, and seldom far off. */
