@@ -10,8 +10,8 @@ final class Check {
 
     /** Names the sentence of the document that the calls test which follow. */
     static void sentence(String section, String words) {
-        Document.quote(section, words);
         sentence = section + ", \"" + words + "\": ";
+        Document.quote(section, words);
     }
 
     static void noSentence() {
