@@ -889,8 +889,9 @@ public final class TaleHoles {
             if (size >= MOST_STATES) {
                 dropOldest();
             }
-            if (isBelow(size, MOST_STATES)) {
-                states[size].copyFrom(state);
+            State row = rowAt(size);
+            if (row != null) {
+                row.copyFrom(state);
                 size++;
             }
         }
@@ -905,11 +906,15 @@ public final class TaleHoles {
         }
 
         private void bringBack(State state) {
-            int latest = size - 1;
-            if (isBelow(latest, MOST_STATES)) {
-                state.copyFrom(states[latest]);
-                size = latest;
+            State row = rowAt(size - 1);
+            if (row != null) {
+                state.copyFrom(row);
+                size--;
             }
+        }
+
+        private State rowAt(int index) {
+            return isBelow(index, MOST_STATES) ? states[index] : null;
         }
     }
 }
